@@ -409,10 +409,10 @@ public final class PaneLayers {
         checkRange(column, 0, MOST_WIDTH - 1);
         checkSign(sign);
         int found = findBox(it, row, many, column);
-        for (int i = 0; i < found; i++) {
+        for (int i = 0; i < found && i < MOST_BOX_ROWS; i++) {
             checkState(text.at(boxLines[i]).size + boxPlacesInLine(found, boxLines[i]) <= MOST_SIGNS);
         }
-        for (int i = 0; i < found; i++) {
+        for (int i = 0; i < found && i < MOST_BOX_ROWS; i++) {
             putIn(boxLines[i], boxPlaces[i] + boxPlacesAhead(i), sign);
         }
         return found;
@@ -1183,7 +1183,7 @@ public final class PaneLayers {
                     found = Math.max(found, begin[k]);
                 }
             }
-            return length < place ? length : found;
+            return found;
         }
 
         /** The least shown place behind a place; NONE if there is none. */
@@ -1209,7 +1209,7 @@ public final class PaneLayers {
 
     /** Finds in which directions the clusters of a line go. */
     private static final class Directions {
-        /** Of an isolating sign the other one of its pair, NONE of others. */
+        /** Of an isolating sign that opens the one that closes it, NONE of others. */
         private final int[] partner = new int[CELLS];
         /** The base of the sequence in which a cluster stands. */
         private final int[] baseAt = new int[CELLS];
@@ -1268,15 +1268,14 @@ public final class PaneLayers {
                     open++;
                 } else if (layout.sign[k] == '>' && open > 0) {
                     open--;
-                    pairUp(opened[open], k);
+                    setPartner(opened[open], k);
                 }
             }
         }
 
-        private void pairUp(int from, int to) {
-            if (from >= 0 && from < CELLS && to >= 0 && to < CELLS) {
+        private void setPartner(int from, int to) {
+            if (from >= 0 && from < CELLS) {
                 partner[from] = to;
-                partner[to] = from;
             }
         }
 

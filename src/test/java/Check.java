@@ -43,6 +43,76 @@ final class Check {
         due(what, IllegalStateException.class, call);
     }
 
+    /** Puts signs in at the end of a line. */
+    static void write(PaneLayers x, int line, String signs) {
+        for (int i = 0; i < signs.length(); i++) {
+            x.insert(line, x.length(line), signs.charAt(i));
+        }
+    }
+
+    /** An object with these lines. */
+    static PaneLayers withLines(String... lines) {
+        PaneLayers x = new PaneLayers();
+        for (int i = 0; i < lines.length; i++) {
+            if (i > 0) {
+                x.breakLine(i - 1, x.length(i - 1));
+            }
+            write(x, i, lines[i]);
+        }
+        return x;
+    }
+
+    /** The signs of all lines, with a | between two. */
+    static String text(PaneLayers x) {
+        StringBuilder told = new StringBuilder();
+        for (int line = 0; line < x.lines(); line++) {
+            told.append(line > 0 ? "|" : "");
+            for (int place = 0; place < x.length(line); place++) {
+                told.append((char) x.sign(line, place));
+            }
+        }
+        return told.toString();
+    }
+
+    /** The first signs of the clusters of all rows of a pane as they stand on the screen, with a | between two rows. */
+    static String rows(PaneLayers x, int pane) {
+        StringBuilder told = new StringBuilder();
+        for (int row = 0; row < x.rows(pane); row++) {
+            told.append(row > 0 ? "|" : "");
+            for (int cell = 0; cell < x.clusters(pane, row); cell++) {
+                told.append((char) x.cell(pane, row, cell, 0));
+            }
+        }
+        return told.toString();
+    }
+
+    /** What is told of the clusters of a row, from the left of the screen on. */
+    static String cells(PaneLayers x, int pane, int row, int what) {
+        StringBuilder told = new StringBuilder();
+        for (int cell = 0; cell < x.clusters(pane, row); cell++) {
+            told.append(cell > 0 ? " " : "").append(x.cell(pane, row, cell, what));
+        }
+        return told.toString();
+    }
+
+    /** The line, place, row, column, wanted column of the cursor and the first row that is shown. */
+    static String cursor(PaneLayers x, int pane) {
+        StringBuilder told = new StringBuilder();
+        for (int what = 0; what < 6; what++) {
+            told.append(what > 0 ? " " : "").append(x.cursor(pane, what));
+        }
+        return told.toString();
+    }
+
+    /** Signs as addVirtual takes them. */
+    static long virtual(String signs) {
+        long told = 0;
+        for (int i = 0; i < signs.length(); i++) {
+            told |= (long) signs.charAt(i) << 8 * i;
+        }
+        return told;
+    }
+
     /** The exception has to be of just this class, and thrown by the program, not by the machine in an array. */
     private static void due(String what, Class<?> want, Call call) {
         done++;
