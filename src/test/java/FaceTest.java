@@ -102,6 +102,15 @@ final class FaceTest {
         return told.toString();
     }
 
+    private static boolean isPublicName(String name) {
+        for (String method : METHODS) {
+            if (method.contains(" " + name + "(")) {
+                return true;
+            }
+        }
+        return false;
+    }
+
     private static void members() {
         Check.due("the class is public and final", Modifier.PUBLIC | Modifier.FINAL, PaneLayers.class.getModifiers());
         Check.due("package", "", PaneLayers.class.getPackageName());
@@ -116,6 +125,9 @@ final class FaceTest {
         for (Class<?> inside : PaneLayers.class.getDeclaredClasses()) {
             Check.due(inside + " is private", true, Modifier.isPrivate(inside.getModifiers()));
             Check.due(inside + " is static", true, Modifier.isStatic(inside.getModifiers()));
+            for (Method method : inside.getDeclaredMethods()) {
+                Check.due(inside + " has a method with the public name " + method, false, isPublicName(method.getName()));
+            }
             for (Field field : inside.getDeclaredFields()) {
                 boolean isConstant = Modifier.isFinal(field.getModifiers());
                 Check.due(field + " is no static state", true, isConstant || !Modifier.isStatic(field.getModifiers()));

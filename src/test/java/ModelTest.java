@@ -1,6 +1,6 @@
 /** Random runs of all calls: the class and the model have to answer alike, and only the document's exceptions come. */
 final class ModelTest {
-    private static final int RUNS = 400;
+    private static final int RUNS = 300;
     private static final int CALLS = 512;
     private static final String[] NAMES = {"lines", "length", "sign", "insert", "remove", "breakLine", "join", "setMark",
         "shape", "hide", "show", "addVirtual", "dropVirtual", "addFold", "setClosed", "rows", "rowsOf", "clusters",
@@ -54,7 +54,65 @@ final class ModelTest {
         Check.end();
     }
 
+    /** Brings lines, signs and layers near to the greatest numbers that the document allows. */
+    private void fill() {
+        for (int i = 0; i < 57; i++) {
+            its.breakLine(0, 0);
+            model.breakLine(0, 0);
+        }
+        for (int line = 0; line < 3; line++) {
+            for (int i = 0; i < 76 + line; i++) {
+                int sign = alphabet.charAt(lot.below(alphabet.length()));
+                its.insert(line, 0, sign);
+                model.insert(line, 0, sign);
+            }
+        }
+        for (int i = 0; i < 5; i++) {
+            its.hide(0, 0, 10 * i, 10 * i + 3);
+            model.hide(0, 0, 10 * i, 10 * i + 3);
+            its.addVirtual(0, 1, 7 * i, '(' + i);
+            model.addVirtual(0, 1, 7 * i, '(' + i);
+            its.addFold(0, 5 * i, 5 * i + 4);
+            model.addFold(0, 5 * i, 5 * i + 4);
+        }
+    }
+
+    /** What is told of all panes and rows. */
+    private void lookAround(int seed) {
+        for (int pane = 0; pane < 4; pane++) {
+            for (int what = 0; what < 6; what++) {
+                Check.due("seed " + seed + " cursor", model.cursor(pane, what), its.cursor(pane, what));
+            }
+            for (int part = 0; part < 8; part++) {
+                Check.due("seed " + seed + " minimap", model.minimap(pane, part), its.minimap(pane, part));
+            }
+        }
+        for (int line = 0; line < its.lines(); line += 7) {
+            for (int place = 0; place <= its.length(line); place++) {
+                Check.due("seed " + seed + " row", model.rowAt(0, line, place, 0), its.rowAt(0, line, place, 0));
+                Check.due("seed " + seed + " row", model.rowAt(1, line, place, 1), its.rowAt(1, line, place, 1));
+                Check.due("seed " + seed + " column", model.columnAt(0, line, place, 0), its.columnAt(0, line, place, 0));
+                Check.due("seed " + seed + " column", model.columnAt(1, line, place, 1), its.columnAt(1, line, place, 1));
+            }
+        }
+        for (int row = 0; row < its.rows(0); row += 5) {
+            Check.due("seed " + seed + " clusters", model.clusters(0, row), its.clusters(0, row));
+            Check.due("seed " + seed + " marks", model.marksAt(0, row), its.marksAt(0, row));
+            for (int cell = 0; cell < its.clusters(0, row); cell++) {
+                for (int what = 0; what < 6; what++) {
+                    Check.due("seed " + seed + " cell", model.cell(0, row, cell, what), its.cell(0, row, cell, what));
+                }
+            }
+            for (int column = 0; column < 40; column += 3) {
+                Check.due("seed " + seed + " place", model.placeAt(0, row, column), its.placeAt(0, row, column));
+            }
+        }
+    }
+
     private void run(int seed) {
+        if (seed % 15 == 5) {
+            fill();
+        }
         int calls = isWild ? CALLS / 2 : CALLS;
         for (int i = 0; i < calls; i++) {
             int call = i < calls / 3 && !lot.once(4) ? editing() : i > calls * 3 / 4 ? lot.below(NAMES.length) : mixed();
@@ -69,6 +127,7 @@ final class ModelTest {
             }
             Check.due("", due, got);
         }
+        lookAround(seed);
     }
 
     private int editing() {
