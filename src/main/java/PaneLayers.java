@@ -469,9 +469,7 @@ public final class PaneLayers {
     }
 
     private Line lineOf(int line) {
-        if (line < 0 || line >= text.count) {
-            throw new IndexOutOfBoundsException("no such line");
-        }
+        checkLine(line);
         return text.at(line);
     }
 
@@ -1140,7 +1138,7 @@ public final class PaneLayers {
             return (level[k] + edge) % 2 == 0 ? column[k] : column[k] + wide[k];
         }
 
-        /** The place that is up from a row and a column. */
+        /** The place that is up from a row and a column; a row that has clusters begins with one that has a width. */
         int placeUp(int row, int itsColumn) {
             int many = cellsIn(row);
             int found = onScreen(row, 0);

@@ -5,6 +5,7 @@ final class DirectionTest {
         neutralOnes();
         brackets();
         isolatingOnes();
+        deep();
         endsOfRows();
         screenOrder();
         Check.end();
@@ -97,6 +98,40 @@ final class DirectionTest {
         levels("a<<n>", "00010");
         levels("a<n>>", "00100");
         levels("a<n<b<o>>>", "0011223210");
+    }
+
+    private static void deep() {
+        PaneLayers x = Check.withLines("<".repeat(40) + ">".repeat(40));
+        x.shape(0, 40, 0, 0);
+        for (int place = 0; place < 40; place++) {
+            Check.due("level of <", 2 * place, levelOf(x, place));
+            Check.due("level of its >", 2 * place, levelOf(x, 79 - place));
+        }
+        x.addVirtual(0, 0, 40, Check.virtual("<n>a"));
+        Check.due("inside", 80, levelAt(x, '<', 1));
+        Check.due("draw", 24, x.draw(0));
+        Check.due("draw again", 0, x.draw(0));
+    }
+
+    private static int levelOf(PaneLayers x, int place) {
+        for (int row = 0; row < 2; row++) {
+            for (int cell = 0; cell < x.clusters(0, row); cell++) {
+                if (x.cell(0, row, cell, 5) == place) {
+                    return x.cell(0, row, cell, 4);
+                }
+            }
+        }
+        return PaneLayers.NONE;
+    }
+
+    /** The level of a virtual sign in a row. */
+    private static int levelAt(PaneLayers x, int sign, int row) {
+        for (int cell = 0; cell < x.clusters(0, row); cell++) {
+            if (x.cell(0, row, cell, 0) == sign && x.cell(0, row, cell, 5) == PaneLayers.NONE) {
+                return x.cell(0, row, cell, 4);
+            }
+        }
+        return PaneLayers.NONE;
     }
 
     private static void endsOfRows() {

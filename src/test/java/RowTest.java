@@ -8,6 +8,7 @@ final class RowTest {
         wide();
         cells();
         folded();
+        greatest();
         errors();
         Check.end();
     }
@@ -138,6 +139,30 @@ final class RowTest {
         Check.due("rows of an invisible line", 0, x.rowsOf(0, 1));
         Check.due("rows of the last line of the fold", 0, x.rowsOf(0, 2));
         Check.due("rows of the line behind", 1, x.rowsOf(0, 3));
+    }
+
+    private static void greatest() {
+        PaneLayers x = Check.withLines(" ".repeat(80), "");
+        for (int i = 0; i < 6; i++) {
+            x.addVirtual(0, 0, 10 * i, Check.virtual("        "));
+        }
+        x.addFold(0, 0, 1);
+        x.setClosed(0, 0, true);
+        Check.due("blanks", 128, x.clusters(0, 0));
+        Check.due("the signs of the fold", 3, x.clusters(0, 1));
+        Check.due("the last blank", 20, x.cell(0, 0, 127, 2));
+        Check.due("draw", 24, x.draw(0));
+        Check.due("draw again", 0, x.draw(0));
+        Check.range("one more", () -> x.cell(0, 0, 128, 0));
+        PaneLayers y = Check.withLines("a".repeat(80), "");
+        for (int i = 0; i < 6; i++) {
+            y.addVirtual(0, 0, 80, Check.virtual("aaaaaaaa"));
+        }
+        y.shape(0, 10, 4, 0);
+        y.addFold(0, 0, 1);
+        y.setClosed(0, 0, true);
+        Check.due("rows", 22, y.rows(0));
+        Check.due("the last row", "46", Check.cells(y, 0, 21, 0));
     }
 
     private static void errors() {
