@@ -1729,9 +1729,7 @@ public final class PaneLayers {
 
         /** Moves the cursor; tells whether it is another one then. */
         boolean go(int move, int height) {
-            int line = takenLine(cursor);
-            int place = takenAt(cursor);
-            goal.set(line, place);
+            goal.set(takenLine(cursor), takenAt(cursor));
             if (move == LEFT) {
                 aimLeft();
             } else if (move == RIGHT) {
@@ -1739,16 +1737,22 @@ public final class PaneLayers {
             } else if (move == HOME || move == END) {
                 aimInRow(move);
             } else {
-                aimAtRow(move, height);
+                aimAtRow(rowOfMove(move, height));
             }
-            boolean isAnother = !goal.isAt(line, place);
-            if (isAnother) {
-                cursor.set(goal.line, goal.at);
-            }
+            boolean isAnother = takeGoal();
             if (move == LEFT || move == RIGHT || move == HOME || move == END) {
                 wanted = cursorColumn();
             }
             return isAnother;
+        }
+
+        /** Lets the cursor go to the goal; tells whether it is another one then. */
+        private boolean takeGoal() {
+            if (goal.isAt(takenLine(cursor), takenAt(cursor))) {
+                return false;
+            }
+            cursor.set(goal.line, goal.at);
+            return true;
         }
 
         private void aimLeft() {
@@ -1788,13 +1792,17 @@ public final class PaneLayers {
             }
         }
 
-        private void aimAtRow(int move, int height) {
+        private int rowOfMove(int move, int height) {
             int row = rowDown(goal.line, goal.at, BEFORE);
             int many = move == UP || move == DOWN ? 1 : height;
             boolean isUp = move == UP || move == PAGE_UP;
-            int to = isUp ? Math.max(0, row - many) : Math.min(allRows - 1, row + many);
-            if (to != row) {
-                goal.set(lineOfRow(to), placeUp(to, wanted));
+            return isUp ? Math.max(0, row - many) : Math.min(allRows - 1, row + many);
+        }
+
+        /** Aims up from a row and the wanted column; there is nothing to go to in the row of the cursor itself. */
+        private void aimAtRow(int row) {
+            if (row != rowDown(goal.line, goal.at, BEFORE)) {
+                goal.set(lineOfRow(row), placeUp(row, wanted));
             }
         }
 
@@ -1802,16 +1810,11 @@ public final class PaneLayers {
             setTop(Math.max(0, Math.min(allRows - 1, topRow() + many)));
             int first = topRow();
             int room = marginFor(height);
-            int row = cursorRow();
             int last = first + height - 1 - room;
-            if (row < first + room || row > last) {
-                int to = Math.min(allRows - 1, row > last ? last : first + room);
-                int line = lineOfRow(to);
-                int place = placeUp(to, wanted);
-                if (line != takenLine(cursor) || place != takenAt(cursor)) {
-                    cursor.set(line, place);
-                }
-            }
+            int nearest = Math.min(last, Math.max(first + room, cursorRow()));
+            goal.set(takenLine(cursor), takenAt(cursor));
+            aimAtRow(Math.min(allRows - 1, nearest));
+            takeGoal();
             return first;
         }
 

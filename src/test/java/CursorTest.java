@@ -25,6 +25,7 @@ final class CursorTest {
         play();
         scroll();
         scrollWithMargins();
+        scrollWithoutOtherRow();
         edits();
         topsAndEdits();
         type();
@@ -385,6 +386,39 @@ final class CursorTest {
         Check.due("cursor", "21 0 21 0 0 0", Check.cursor(x, 0));
         Check.due("scroll", 28, x.scroll(0, 28));
         Check.due("as far as there are rows", "29 0 29 0 0 28", Check.cursor(x, 0));
+    }
+
+    private static void scrollWithoutOtherRow() {
+        PaneLayers x = new PaneLayers();
+        x.shape(0, 10, 0, 1);
+        Check.due("type", 1, x.type(0, '<'));
+        Check.due("scroll", 0, x.scroll(0, 0));
+        Check.due("the cursor has no other row", "0 1 0 1 1 0", Check.cursor(x, 0));
+        Check.due("type", 2, x.type(0, '='));
+        Check.due("the text", "<=", Check.text(x));
+
+        PaneLayers y = withMany(30);
+        y.shape(0, 20, 0, 2);
+        y.put(0, 29, 1);
+        y.insert(29, 0, 'c');
+        Check.due("scroll", 29, y.scroll(0, 29));
+        Check.due("the last row is the nearest one", "29 2 29 2 1 29", Check.cursor(y, 0));
+        Check.due("scroll", 28, y.scroll(0, -1));
+        Check.due("and still is", "29 2 29 2 1 28", Check.cursor(y, 0));
+        y.put(0, 28, 2);
+        y.move(0, HOME);
+        Check.due("scroll", 28, y.scroll(0, 2));
+        Check.due("from another row to the last one", "29 0 29 0 0 28", Check.cursor(y, 0));
+
+        PaneLayers z = Check.withLines("abc", "abc");
+        z.shape(0, 20, 0, 1);
+        z.addFold(0, 0, 1);
+        z.put(0, 1, 2);
+        z.setClosed(0, 0, true);
+        Check.due("scroll", 0, z.scroll(0, 0));
+        Check.due("an invisible cursor", "0 0 0 0 2 0", Check.cursor(z, 0));
+        z.setClosed(0, 0, false);
+        Check.due("stays where it is", "1 2 1 2 2 0", Check.cursor(z, 0));
     }
 
     private static void edits() {

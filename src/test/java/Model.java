@@ -1019,7 +1019,7 @@ final class Model {
         if (row < low || row > high) {
             int to = Math.min(row < low ? low : high, all.size() - 1);
             int[] goal = {all.get(to).line, up(all.get(to), p.wanted)};
-            p.cursor = Arrays.equals(goal, taken(p, p.cursor)) ? p.cursor : goal;
+            p.cursor = to == row || Arrays.equals(goal, taken(p, p.cursor)) ? p.cursor : goal;
         }
         return first;
     }
