@@ -1811,10 +1811,12 @@ public final class PaneLayers {
             int first = topRow();
             int room = marginFor(height);
             int last = first + height - 1 - room;
-            int nearest = Math.min(last, Math.max(first + room, cursorRow()));
-            goal.set(takenLine(cursor), takenAt(cursor));
-            aimAtRow(Math.min(allRows - 1, nearest));
-            takeGoal();
+            int row = cursorRow();
+            int nearest = Math.min(allRows - 1, Math.min(last, Math.max(first + room, row)));
+            // Unlike a move, this takes the cursor out of an invisible line also to where it is taken to be.
+            if (nearest != row) {
+                cursor.set(lineOfRow(nearest), placeUp(nearest, wanted));
+            }
             return first;
         }
 

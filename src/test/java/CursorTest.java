@@ -26,6 +26,7 @@ final class CursorTest {
         scroll();
         scrollWithMargins();
         scrollWithoutOtherRow();
+        scrollOutOfInvisibleLine();
         edits();
         topsAndEdits();
         type();
@@ -419,6 +420,32 @@ final class CursorTest {
         Check.due("an invisible cursor", "0 0 0 0 2 0", Check.cursor(z, 0));
         z.setClosed(0, 0, false);
         Check.due("stays where it is", "1 2 1 2 2 0", Check.cursor(z, 0));
+    }
+
+    private static void scrollOutOfInvisibleLine() {
+        PaneLayers x = Check.withLines("", "abc");
+        x.shape(0, 10, 0, 1);
+        x.addVirtual(0, 0, 0, Check.virtual("!!!!!!!!"));
+        x.addFold(0, 0, 1);
+        x.put(0, 1, 2);
+        x.setClosed(0, 0, true);
+        Check.due("a move to where the cursor is taken to be", false, x.move(0, DOWN));
+        x.setClosed(0, 0, false);
+        Check.due("leaves it in its line", "1 2 1 2 2 0", Check.cursor(x, 0));
+        x.setClosed(0, 0, true);
+        Check.due("scroll", 0, x.scroll(0, 0));
+        Check.due("the row 1 is at the same place", "0 0 0 0 2 0", Check.cursor(x, 0));
+        x.setClosed(0, 0, false);
+        Check.due("but the cursor has gone there", "0 0 0 0 2 0", Check.cursor(x, 0));
+
+        PaneLayers y = Check.withLines("abc", "abc", "abc");
+        y.addFold(0, 0, 1);
+        y.put(0, 1, 2);
+        y.setClosed(0, 0, true);
+        Check.due("scroll", 1, y.scroll(0, 1));
+        Check.due("to another line", "2 2 1 2 2 1", Check.cursor(y, 0));
+        y.setClosed(0, 0, false);
+        Check.due("it stays there", "2 2 2 2 2 2", Check.cursor(y, 0));
     }
 
     private static void edits() {

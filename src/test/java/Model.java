@@ -1018,8 +1018,7 @@ final class Model {
         int row = downTaken(p, p.cursor)[0];
         if (row < low || row > high) {
             int to = Math.min(row < low ? low : high, all.size() - 1);
-            int[] goal = {all.get(to).line, up(all.get(to), p.wanted)};
-            p.cursor = to == row || Arrays.equals(goal, taken(p, p.cursor)) ? p.cursor : goal;
+            p.cursor = to == row ? p.cursor : new int[] {all.get(to).line, up(all.get(to), p.wanted)};
         }
         return first;
     }

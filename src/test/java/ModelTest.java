@@ -18,6 +18,8 @@ final class ModelTest {
     private final Lot lot;
     private final String alphabet;
     private final boolean isWild;
+    /** A run of few signs and many layers, in which the cursors are looked at after each call. */
+    private final boolean isLayered;
     private final StringBuilder told = new StringBuilder();
     private PaneLayers its = new PaneLayers();
     private Model model = new Model();
@@ -44,6 +46,7 @@ final class ModelTest {
         lot = new Lot(seed);
         alphabet = ALPHABETS[seed % ALPHABETS.length];
         isWild = seed % 5 == 4;
+        isLayered = seed % 4 == 3;
     }
 
     public static void main(String[] args) {
@@ -75,6 +78,13 @@ final class ModelTest {
             its.addFold(0, 5 * i, 5 * i + 4);
             model.addFold(0, 5 * i, 5 * i + 4);
         }
+    }
+
+    private void makeLow(int height) {
+        its.open(1);
+        model.open(1);
+        its.share(0, 1, 1, height);
+        model.share(0, 1, 1, height);
     }
 
     /** What is told of all panes and rows. */
@@ -113,9 +123,13 @@ final class ModelTest {
         if (seed % 15 == 5) {
             fill();
         }
-        int calls = isWild ? CALLS / 2 : CALLS;
+        if (isLayered && lot.once(2)) {
+            makeLow(1 + lot.below(8));
+        }
+        int calls = isWild ? CALLS / 2 : isLayered ? CALLS / 4 : CALLS;
         for (int i = 0; i < calls; i++) {
-            int call = i < calls / 3 && !lot.once(4) ? editing() : i > calls * 3 / 4 ? lot.below(NAMES.length) : mixed();
+            int call = isLayered ? layering(i) : i < calls / 3 && !lot.once(4) ? editing()
+                : i > calls * 3 / 4 ? lot.below(NAMES.length) : mixed();
             long[] a = arguments(call);
             String got = answer(call, a, true);
             String due = answer(call, a, false);
@@ -126,8 +140,28 @@ final class ModelTest {
                 return;
             }
             Check.due("", due, got);
+            if (isLayered && !hasDueCursor()) {
+                System.out.println("run " + seed + ":\n" + told);
+                Check.due("seed " + seed + " call " + i + " " + NAMES[call], "the cursor of the model", "another one");
+                return;
+            }
         }
         lookAround(seed);
+    }
+
+    private boolean hasDueCursor() {
+        for (int what = 0; what < 6; what++) {
+            if (its.cursor(0, what) != model.cursor(0, what)) {
+                return false;
+            }
+        }
+        return true;
+    }
+
+    private int layering(int number) {
+        int[] first = {5, 5, 11, 11, 8, 13};
+        int[] then = {11, 12, 13, 14, 14, 14, 14, 29, 29, 30, 30, 33, 33, 33, 8, 9, 9, 10, 34, 5, 6, 4, 4, 27, 25, 36, 35};
+        return number < 8 ? first[lot.below(first.length)] : then[lot.below(then.length)];
     }
 
     private int editing() {
@@ -150,7 +184,7 @@ final class ModelTest {
     }
 
     private int line() {
-        return wild(lot.below((int) model.lines()));
+        return wild(lot.below(isLayered ? Math.min(4, (int) model.lines()) : (int) model.lines()));
     }
 
     private int lengthOf(int line) {
@@ -166,7 +200,7 @@ final class ModelTest {
     }
 
     private int pane() {
-        return wild(lot.once(2) ? 0 : lot.below(4));
+        return wild(isLayered || lot.once(2) ? 0 : lot.below(4));
     }
 
     private int row(int pane) {
@@ -175,7 +209,7 @@ final class ModelTest {
 
     private long virtualSigns() {
         long signs = 0;
-        int many = lot.once(6) ? lot.below(9) : 1 + lot.below(4);
+        int many = isLayered ? 8 - lot.below(3) : lot.once(6) ? lot.below(9) : 1 + lot.below(4);
         for (int i = 0; i < many; i++) {
             char sign = alphabet.charAt(lot.below(alphabet.length()));
             boolean isBad = sign == '~' || sign == '\t';
@@ -207,7 +241,8 @@ final class ModelTest {
             case 7:
                 return new long[] {line, lot.below(2)};
             case 8:
-                return new long[] {pane, wild(10 + lot.below(lot.once(3) ? 31 : 8)), wild(lot.below(5)), wild(lot.below(4))};
+                return new long[] {pane, wild(10 + lot.below(isLayered ? 2 : lot.once(3) ? 31 : 8)), wild(lot.below(5)),
+                    wild(lot.below(4))};
             case 9:
                 return new long[] {pane, line, from, to};
             case 10:
