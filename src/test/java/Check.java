@@ -5,6 +5,16 @@ final class Check {
         long answer();
     }
 
+    /** Makes an object that is always the same. */
+    interface Recipe {
+        PaneLayers make();
+    }
+
+    /** A call on an object. */
+    interface Use {
+        long on(PaneLayers x);
+    }
+
     private static int wrong;
     private static int done;
 
@@ -41,6 +51,24 @@ final class Check {
 
     static void state(String what, Call call) {
         due(what, IllegalStateException.class, call);
+    }
+
+    /** The call has to throw just this exception, and to leave all as it is in an object that never got the call. */
+    static void refused(String what, Class<?> want, Recipe recipe, Use use) {
+        PaneLayers x = recipe.make();
+        due(what, want, () -> use.on(x));
+        due(what + " changes nothing", Whole.of(recipe.make()), Whole.of(x));
+    }
+
+    /** The call has to be taken. */
+    static void taken(String what, Recipe recipe, Use use) {
+        done++;
+        try {
+            use.on(recipe.make());
+        } catch (RuntimeException thrown) {
+            wrong++;
+            System.out.println(what + " threw " + thrown);
+        }
     }
 
     /** Puts signs in at the end of a line. */
@@ -104,6 +132,21 @@ final class Check {
         return told.toString();
     }
 
+    /** The levels of the clusters of a line alone, in the order of the text, have to be these. */
+    static void levels(String line, String due) {
+        PaneLayers x = withLines(line);
+        x.shape(0, 40, 0, 0);
+        int[] levels = new int[line.length()];
+        for (int cell = 0; cell < x.clusters(0, 0); cell++) {
+            levels[x.cell(0, 0, cell, 5)] = x.cell(0, 0, cell, 4);
+        }
+        StringBuilder told = new StringBuilder();
+        for (int level : levels) {
+            told.append(level);
+        }
+        due("levels of " + line, due, told.toString());
+    }
+
     /** Signs as addVirtual takes them. */
     static long virtual(String signs) {
         long told = 0;
@@ -113,7 +156,7 @@ final class Check {
         return told;
     }
 
-    /** The exception has to be of just this class, and thrown by the program, not by the machine in an array. */
+    /** The exception has to be of just this class, and thrown by the program, not by the machine or its library. */
     private static void due(String what, Class<?> want, Call call) {
         done++;
         try {
@@ -121,9 +164,12 @@ final class Check {
             wrong++;
             System.out.println(what + " answered " + got + ", due is " + want.getSimpleName());
         } catch (RuntimeException thrown) {
-            if (thrown.getClass() != want) {
+            StackTraceElement[] calls = thrown.getStackTrace();
+            boolean isOwn = calls.length > 0 && calls[0].getClassName().startsWith("PaneLayers");
+            if (thrown.getClass() != want || !isOwn) {
                 wrong++;
-                System.out.println(what + " threw " + thrown + ", due is " + want.getSimpleName());
+                System.out.println(what + (isOwn ? " threw " : ": the machine threw ") + thrown + ", due is "
+                    + want.getSimpleName());
             }
         }
     }

@@ -11,93 +11,78 @@ final class DirectionTest {
         Check.end();
     }
 
-    /** The levels of a line, in the order of the text. */
-    private static void levels(String line, String due) {
-        PaneLayers x = Check.withLines(line);
-        x.shape(0, 40, 0, 0);
-        int[] levels = new int[line.length()];
-        for (int cell = 0; cell < x.clusters(0, 0); cell++) {
-            levels[x.cell(0, 0, cell, 5)] = x.cell(0, 0, cell, 4);
-        }
-        StringBuilder told = new StringBuilder();
-        for (int level : levels) {
-            told.append(level);
-        }
-        Check.due("levels of " + line, due, told.toString());
-    }
-
     private static void lettersAndDigits() {
-        levels("amAMnzNZ", "00001111");
-        levels("nzNZamAM", "11112222");
-        levels("", "");
-        levels("12", "00");
-        levels("a12", "000");
-        levels("n12", "122");
-        levels("12n", "221");
-        levels("12a", "000");
-        levels("an1b2", "01200");
-        levels("na1n2", "12212");
-        levels("an.1b2", "011200");
-        levels("n09", "122");
-        levels("n/:", "111");
+        Check.levels("amAMnzNZ", "00001111");
+        Check.levels("nzNZamAM", "11112222");
+        Check.levels("", "");
+        Check.levels("12", "00");
+        Check.levels("a12", "000");
+        Check.levels("n12", "122");
+        Check.levels("12n", "221");
+        Check.levels("12a", "000");
+        Check.levels("an1b2", "01200");
+        Check.levels("na1n2", "12212");
+        Check.levels("an.1b2", "011200");
+        Check.levels("n09", "122");
+        Check.levels("n/:", "111");
     }
 
     private static void neutralOnes() {
-        levels("...", "000");
-        levels("a..b", "0000");
-        levels("a..n", "0001");
-        levels("an.-ob", "011110");
-        levels("an.b", "0100");
-        levels("na.b", "1222");
-        levels("na.n", "1211");
-        levels(".n.", "111");
-        levels(".a.", "000");
-        levels("n1.1", "1212");
-        levels("an.", "010");
-        levels("n@`{", "1111");
+        Check.levels("...", "000");
+        Check.levels("a..b", "0000");
+        Check.levels("a..n", "0001");
+        Check.levels("an.-ob", "011110");
+        Check.levels("an.b", "0100");
+        Check.levels("na.b", "1222");
+        Check.levels("na.n", "1211");
+        Check.levels(".n.", "111");
+        Check.levels(".a.", "000");
+        Check.levels("n1.1", "1212");
+        Check.levels("an.", "010");
+        Check.levels("n@`{", "1111");
     }
 
     private static void brackets() {
-        levels("a(n)", "0010");
-        levels("an(o)", "01111");
-        levels("an(o)b", "011110");
-        levels("an(1b)", "010200");
-        levels("an(..)b", "0100000");
-        levels("an(..)o", "0111111");
-        levels("n(a)", "1121");
-        levels("na(b)", "12222");
-        levels("na(bo)", "121211");
-        levels("(n)a", "1112");
-        levels("1(n)a", "21112");
-        levels("a1(n)", "00010");
-        levels("an(o]p)", "0111111");
-        levels("an([o)]p)b", "0111111100");
-        levels("an[o(p])", "01111110");
-        levels("a(n(b)o)", "00100010");
-        levels("an(o(p)q)", "011111111");
-        levels("an(o)(p)", "01111111");
+        Check.levels("a(n)", "0010");
+        Check.levels("an(o)", "01111");
+        Check.levels("an(o)b", "011110");
+        Check.levels("an(1b)", "010200");
+        Check.levels("an(..)b", "0100000");
+        Check.levels("an(..)o", "0111111");
+        Check.levels("n(a)", "1121");
+        Check.levels("na(b)", "12222");
+        Check.levels("na(bo)", "121211");
+        Check.levels("(n)a", "1112");
+        Check.levels("1(n)a", "21112");
+        Check.levels("a1(n)", "00010");
+        Check.levels("an(o]p)", "0111111");
+        Check.levels("an([o)]p)b", "0111111100");
+        Check.levels("an[o(p])", "01111110");
+        Check.levels("a(n(b)o)", "00100010");
+        Check.levels("an(o(p)q)", "011111111");
+        Check.levels("an(o)(p)", "01111111");
     }
 
     private static void isolatingOnes() {
-        levels("a<n>b", "00100");
-        levels("a<b>n", "00201");
-        levels("<n>a", "0100");
-        levels("<a>n", "1211");
-        levels("<n", "11");
-        levels("n>", "11");
-        levels("a<n<b>o>", "00112110");
-        levels("n<a>", "1121");
-        levels("n<o>", "1131");
-        levels("a<1>", "0020");
-        levels("a<.>", "0020");
-        levels("n<.>", "1121");
-        levels("an<b>o", "011211");
-        levels("an<b>.c", "0102000");
-        levels("n<1n>", "11431");
-        levels("(<)>)n", "112111");
-        levels("a<<n>", "00010");
-        levels("a<n>>", "00100");
-        levels("a<n<b<o>>>", "0011223210");
+        Check.levels("a<n>b", "00100");
+        Check.levels("a<b>n", "00201");
+        Check.levels("<n>a", "0100");
+        Check.levels("<a>n", "1211");
+        Check.levels("<n", "11");
+        Check.levels("n>", "11");
+        Check.levels("a<n<b>o>", "00112110");
+        Check.levels("n<a>", "1121");
+        Check.levels("n<o>", "1131");
+        Check.levels("a<1>", "0020");
+        Check.levels("a<.>", "0020");
+        Check.levels("n<.>", "1121");
+        Check.levels("an<b>o", "011211");
+        Check.levels("an<b>.c", "0102000");
+        Check.levels("n<1n>", "11431");
+        Check.levels("(<)>)n", "112111");
+        Check.levels("a<<n>", "00010");
+        Check.levels("a<n>>", "00100");
+        Check.levels("a<n<b<o>>>", "0011223210");
     }
 
     private static void deep() {

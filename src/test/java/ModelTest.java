@@ -1,7 +1,9 @@
 /** Random runs of all calls: the class and the model have to answer alike, and only the document's exceptions come. */
 final class ModelTest {
-    private static final int RUNS = 300;
+    private static final int RUNS = 600;
+    /** Nothing is promised of later calls of an object. */
     private static final int CALLS = 512;
+    private static final int TELLINGS = 6;
     private static final String[] NAMES = {"lines", "length", "sign", "insert", "remove", "breakLine", "join", "setMark",
         "shape", "hide", "show", "addVirtual", "dropVirtual", "addFold", "setClosed", "rows", "rowsOf", "clusters",
         "cell", "rowAt", "columnAt", "lineAt", "placeAt", "marksAt", "minimap", "open", "close", "share", "height",
@@ -15,12 +17,15 @@ final class ModelTest {
         "<a<n<1>x>b>(n[<1)]>",
         " \t aN"};
 
+    private final int seed;
     private final Lot lot;
     private final String alphabet;
     private final boolean isWild;
     /** A run of few signs and many layers, in which the cursors are looked at after each call. */
     private final boolean isLayered;
     private final StringBuilder told = new StringBuilder();
+    /** How many calls the object has got. */
+    private int used;
     private PaneLayers its = new PaneLayers();
     private Model model = new Model();
 
@@ -43,6 +48,7 @@ final class ModelTest {
     }
 
     private ModelTest(int seed) {
+        this.seed = seed;
         lot = new Lot(seed);
         alphabet = ALPHABETS[seed % ALPHABETS.length];
         isWild = seed % 5 == 4;
@@ -52,7 +58,7 @@ final class ModelTest {
     public static void main(String[] args) {
         int runs = args.length > 0 ? Integer.parseInt(args[0]) : RUNS;
         for (int seed = 0; seed < runs; seed++) {
-            new ModelTest(seed).run(seed);
+            new ModelTest(seed).run();
         }
         Check.end();
     }
@@ -60,108 +66,78 @@ final class ModelTest {
     /** Brings lines, signs and layers near to the greatest numbers that the document allows. */
     private void fill() {
         for (int i = 0; i < 57; i++) {
-            its.breakLine(0, 0);
-            model.breakLine(0, 0);
+            give(5, 0, 0);
         }
-        for (int line = 0; line < 3; line++) {
+        for (int line = 0; line < 2; line++) {
             for (int i = 0; i < 76 + line; i++) {
-                int sign = alphabet.charAt(lot.below(alphabet.length()));
-                its.insert(line, 0, sign);
-                model.insert(line, 0, sign);
+                give(3, line, 0, alphabet.charAt(lot.below(alphabet.length())));
             }
         }
         for (int i = 0; i < 5; i++) {
-            its.hide(0, 0, 10 * i, 10 * i + 3);
-            model.hide(0, 0, 10 * i, 10 * i + 3);
-            its.addVirtual(0, 1, 7 * i, '(' + i);
-            model.addVirtual(0, 1, 7 * i, '(' + i);
-            its.addFold(0, 5 * i, 5 * i + 4);
-            model.addFold(0, 5 * i, 5 * i + 4);
+            give(9, 0, 0, 10 * i, 10 * i + 3);
+            give(11, 0, 1, 7 * i, '(' + i);
+            give(13, 0, 5 * i, 5 * i + 4);
         }
     }
 
     private void makeLow(int height) {
-        its.open(1);
-        model.open(1);
-        its.share(0, 1, 1, height);
-        model.share(0, 1, 1, height);
+        give(25, 1);
+        give(27, 0, 1, 1, height);
     }
 
-    /** What is told of all panes and rows. */
-    private void lookAround(int seed) {
-        for (int pane = 0; pane < 4; pane++) {
-            for (int what = 0; what < 6; what++) {
-                Check.due("seed " + seed + " cursor", model.cursor(pane, what), its.cursor(pane, what));
-            }
-            for (int part = 0; part < 8; part++) {
-                Check.due("seed " + seed + " minimap", model.minimap(pane, part), its.minimap(pane, part));
-            }
-        }
-        for (int line = 0; line < its.lines(); line += 7) {
-            for (int place = 0; place <= its.length(line); place++) {
-                Check.due("seed " + seed + " row", model.rowAt(0, line, place, 0), its.rowAt(0, line, place, 0));
-                Check.due("seed " + seed + " row", model.rowAt(1, line, place, 1), its.rowAt(1, line, place, 1));
-                Check.due("seed " + seed + " column", model.columnAt(0, line, place, 0), its.columnAt(0, line, place, 0));
-                Check.due("seed " + seed + " column", model.columnAt(1, line, place, 1), its.columnAt(1, line, place, 1));
-            }
-        }
-        for (int row = 0; row < its.rows(0); row += 5) {
-            Check.due("seed " + seed + " clusters", model.clusters(0, row), its.clusters(0, row));
-            Check.due("seed " + seed + " marks", model.marksAt(0, row), its.marksAt(0, row));
-            for (int cell = 0; cell < its.clusters(0, row); cell++) {
-                for (int what = 0; what < 6; what++) {
-                    Check.due("seed " + seed + " cell", model.cell(0, row, cell, what), its.cell(0, row, cell, what));
-                }
-            }
-            for (int column = 0; column < 40; column += 3) {
-                Check.due("seed " + seed + " place", model.placeAt(0, row, column), its.placeAt(0, row, column));
-            }
-        }
+    /** A call for the class and the model, which have to answer alike. */
+    private boolean give(int call, long... a) {
+        String got = answer(call, a, true);
+        String due = answer(call, a, false);
+        used++;
+        told.append(NAMES[call]).append(java.util.Arrays.toString(a)).append(" = ").append(due).append("\n");
+        return isDue(NAMES[call], due, got);
     }
 
-    private void run(int seed) {
+    private boolean isDue(String what, String due, String got) {
+        boolean isAlike = got.equals(due);
+        if (!isAlike) {
+            System.out.println("run " + seed + ":\n" + told);
+        }
+        Check.due("seed " + seed + " call " + used + " " + what, due, got);
+        return isAlike;
+    }
+
+    private void run() {
         if (seed % 15 == 5) {
             fill();
         }
         if (isLayered && lot.once(2)) {
             makeLow(1 + lot.below(8));
         }
-        int calls = isWild ? CALLS / 2 : isLayered ? CALLS / 4 : CALLS;
-        for (int i = 0; i < calls; i++) {
-            int call = isLayered ? layering(i) : i < calls / 3 && !lot.once(4) ? editing()
-                : i > calls * 3 / 4 ? lot.below(NAMES.length) : mixed();
-            long[] a = arguments(call);
-            String got = answer(call, a, true);
-            String due = answer(call, a, false);
-            told.append(NAMES[call]).append(java.util.Arrays.toString(a)).append(" = ").append(due).append("\n");
-            if (!got.equals(due)) {
-                System.out.println("run " + seed + ":\n" + told);
-                Check.due("seed " + seed + " call " + i + " " + NAMES[call], due, got);
-                return;
-            }
-            Check.due("", due, got);
-            if (isLayered && !hasDueCursor()) {
-                System.out.println("run " + seed + ":\n" + told);
-                Check.due("seed " + seed + " call " + i + " " + NAMES[call], "the cursor of the model", "another one");
-                return;
-            }
+        boolean isAlike = true;
+        for (int i = 0; used + TELLINGS < CALLS && isAlike; i++) {
+            int call = isLayered ? layering(i) : used < CALLS / 3 && !lot.once(4) ? editing()
+                : used < CALLS * 3 / 4 ? mixed() : lot.once(2) ? asking() : lot.below(NAMES.length);
+            isAlike = give(call, arguments(call)) && (!isLayered || hasDueCursor());
         }
-        lookAround(seed);
     }
 
     private boolean hasDueCursor() {
-        for (int what = 0; what < 6; what++) {
-            if (its.cursor(0, what) != model.cursor(0, what)) {
-                return false;
-            }
+        StringBuilder got = new StringBuilder();
+        StringBuilder due = new StringBuilder();
+        for (int what = 0; what < TELLINGS; what++) {
+            got.append(its.cursor(0, what)).append(" ");
+            due.append(model.cursor(0, what)).append(" ");
+            used++;
         }
-        return true;
+        return isDue("the cursor then", due.toString(), got.toString());
     }
 
     private int layering(int number) {
         int[] first = {5, 5, 11, 11, 8, 13};
         int[] then = {11, 12, 13, 14, 14, 14, 14, 29, 29, 30, 30, 33, 33, 33, 8, 9, 9, 10, 34, 5, 6, 4, 4, 27, 25, 36, 35};
         return number < 8 ? first[lot.below(first.length)] : then[lot.below(then.length)];
+    }
+
+    private int asking() {
+        int[] calls = {16, 17, 18, 18, 18, 18, 19, 20, 20, 21, 22, 22, 23, 24, 28, 32};
+        return calls[lot.below(calls.length)];
     }
 
     private int editing() {
