@@ -759,6 +759,34 @@ final class CursorEdgeTest {
         Check.due("what is at the place stays ahead of the sign", "0 11", w.cursor(1, 0) + " " + w.cursor(1, 1));
         Check.due("what is behind it goes", "0 13", w.cursor(0, 0) + " " + w.cursor(0, 1));
         Check.due("a span that begins there, too", "Mabcdefgh|ijkMm", Check.rows(w, 0));
+        boxesOfVirtualTexts();
+    }
+
+    /** Virtual texts ahead of one cluster stand by their numbers, so their places need not rise with the rows. */
+    private static void boxesOfVirtualTexts() {
+        PaneLayers x = withVirtualTexts(5, 3, 5);
+        Check.due("the first place again in the third row", 2, x.typeBox(0, 0, 3, 1, 'm'));
+        Check.due("is typed at once", "k~~m~~m", Check.text(x));
+        PaneLayers y = withVirtualTexts(5, 3, 4);
+        Check.due("places that fall and rise", 3, y.typeBox(0, 0, 3, 1, 'm'));
+        Check.due("each place as it was found", "k~~m~m~m", Check.text(y));
+        PaneLayers z = withVirtualTexts(5, 3, 5);
+        for (int i = 0; i < 73; i++) {
+            z.insert(0, 3, '~');
+        }
+        Check.due("two places of a line of 78", 2, z.typeBox(0, 0, 3, 1, 'm'));
+        Check.due("length", 80, z.length(0));
+    }
+
+    /** A cluster of five signs, and behind it three virtual texts that fill three rows. */
+    private static PaneLayers withVirtualTexts(int first, int second, int third) {
+        PaneLayers x = Check.withLines("k~~~~");
+        x.shape(0, 10, 0, 0);
+        x.addVirtual(0, 0, first, Check.virtual("aaaaaaaa"));
+        x.addVirtual(0, 0, second, Check.virtual("bbbbbbbb"));
+        x.addVirtual(0, 0, third, Check.virtual("cccccccc"));
+        Check.due("rows", "kaaaaaaaab|bbbbbbbccc|ccccc", Check.rows(x, 0));
+        return x;
     }
 
     private static void fullBoxes() {
